@@ -22,7 +22,7 @@ public final class PromisesTest {
     private static StackTraceElement at() {
         StackTraceElement[] all = new Throwable().getStackTrace();
         int i = 0;
-        while (all[i].getMethodName().matches("at|due|isTrue|none|bad|fault|told|gives|lambda.*")) {
+        while (all[i].getMethodName().matches("at|due|isTrue|none|bad|fault|told|gives|chalkByHand|lambda.*")) {
             i++;
         }
         return all[i];
@@ -215,6 +215,10 @@ public final class PromisesTest {
         fault("lag 1;from 12;", 1, 6);
         fault(" from 12;from 12;", 1, 9);
         fault("walk 5;", 1, 0);
+        fault("bark 50;", 1, 0);
+        fault("hoot 3;", 1, 0);
+        fault("lags 3;", 1, 0);
+        fault("la 3;", 1, 0);
         fault("gogo 20 5;", 1, 0);
         fault("go20 5;go 20", 1, 12);
         fault(";", 1, 0);
@@ -232,6 +236,12 @@ public final class PromisesTest {
         fault("him 3;her 2;", 2, 10);
         fault("her 600;him 601;", 2, 12);
         fault("mark 50;mark 51;mark 050;", 4, 21);
+        fault("mark 50;mark 51;mark 51;", 4, 21);
+        fault(" ".repeat(698) + "go", 1, 700);
+        fault(";".repeat(700), 1, 0);
+        fault("hand 1" + "+1".repeat(347), 1, 700);
+        due(told("hand 1" + "+1".repeat(346) + ";").count(4), 1);
+        fault("ring " + "(1)".repeat(231), 1, 8);
         fault("mark 481;", 2, 5);
         fault("eye 5;lag 3;lag 25;", 5, 12);
         fault("eye --5;", 1, 5);
@@ -243,6 +253,8 @@ public final class PromisesTest {
         due(full.count(0), 600);
         due(full.tenth(599, 0), 1);
         due(full.tenth(600, 0), 0);
+        due(full.tenth(600, 4), 1);
+        due(full.shots(601), 1);
         StringBuilder stays = new StringBuilder();
         for (int i = 0; i < 12; i++) {
             stays.append("stay 1;");
@@ -272,6 +284,8 @@ public final class PromisesTest {
         fault("hand not and;", 3, 9);
         fault("hand go;", 3, 5);
         fault("hand xyz;", 3, 5);
+        fault("hand zz;", 3, 5);
+        fault("hand {;", 1, 5);
         fault("hand hole;", 3, 5);
         fault("ring seen;", 3, 5);
         fault("shows mark;", 3, 6);
@@ -422,6 +436,14 @@ public final class PromisesTest {
         none(() -> x.tenth(-1, 0));
         none(() -> x.tenth(0, 6));
         none(() -> x.tenth(0, -1));
+        // The values of 'shows' are its own: OFF without sign is 21 and 12 where it is SOFT.
+        RingHand s = told("from 54;go 72 1;stay 1;lag 1;wrist 5;hole 10;shows off-5;");
+        due(s.tenth(1, 3), -20);
+        due(s.tenth(1, 5), 1);
+        due(told("from 54;go 72 1;stay 1;lag 1;wrist 5;hole 10;shows off=20;").tenth(1, 5), 1);
+        due(told("from 54;go 72 1;stay 1;lag 1;wrist 5;hole 10;shows off-hole=10;").tenth(1, 5), 1);
+        due(told("from 54;go 72 1;stay 1;lag 1;wrist 5;hole 10;shows 10-off;").tenth(1, 5), 0);
+        due(told("from 54;go 72 1;stay 1;lag 1;wrist 5;hole 10;shows 0;").tenth(1, 5), 0);
         // HANDS: 'was', 'ring' and 'tenth'; what they want is kept to 0 to 999.
         RingHand y = told("from 120;go 60 1;stay 3;lag 0;wrist 90;hand was;hand ring+tenth;hand 0-5;hand 9999;");
         due(y.tenth(1, 2), 36);
@@ -498,6 +520,13 @@ public final class PromisesTest {
         due(y.all(4), 2);
         due(y.all(3), 3);
         due(y.all(2), 1);
+        RingHand last = told("stay 6;hole 1;hand 36+(tenth=6)*3;");
+        due(last.all(3), 6);
+        due(last.all(2), 1);
+        due(last.all(5), 1);
+        RingHand long600 = told("stay 99;stay 99;stay 99;stay 99;stay 99;stay 99;stay 6;hand 36+(599<tenth)*9;");
+        due(long600.all(3), 600);
+        due(long600.tenth(600, 5), 1);
         due(y.all(6), 1 + 1 + 2 + 2 + 3 + 3);
     }
 
@@ -632,6 +661,17 @@ public final class PromisesTest {
         // A hand that looks too far ahead is held back.
         RingHand y = told("from 12;go 90 78;ring inch*10;wrist 90;lag 2;hole 1;hand seen+40;");
         due(y.foretell(0), -2);
+        // Of like ones (-2 and 2) the one below 0; the farthest that is tried is 24.
+        due(told("from 71;go 208 1;go 80 6;lag 1;wrist 2;hole 3;").foretell(0), -2);
+        RingHand late = told("from 12;go 111 99;ring inch*9;lag 24;wrist 90;hole 1;");
+        due(late.foretell(0), 24);
+        // From tenth 25 on he knows better, but needs 27 to be there.
+        due(late.foretell(1), 1 + 73);
+        RingHand later = told("from 12;go 111 99;ring inch*9;lag 24;wrist 90;hole 1;hand seen-9;");
+        isTrue(later.foretell(0) != 25);
+        isTrue(later.foretell(1) < 10);
+        RingHand early = told("from 12;go 111 99;ring inch*9;lag 0;wrist 90;hole 1;hand seen+24*9;");
+        due(early.foretell(0), -24);
         none(() -> x.foretell(2));
         none(() -> x.foretell(-1));
     }
@@ -647,6 +687,8 @@ public final class PromisesTest {
         due(x.holes(7), 21);
         due(x.holes(8), -1);
         due(x.holes(601), -1);
+        due(told("from 100;go 161 1;ring inch;lag 0;wrist 1;").holes(2), 60);
+        due(told("from 100;go 162 1;ring inch;lag 0;wrist 1;").holes(2), -1);
         bad(() -> x.holes(-1));
         bad(() -> x.holes(602));
         due(x.count(6), 10);
@@ -716,6 +758,54 @@ public final class PromisesTest {
         due(y.marks(3), -1);
         due(y.kept(1), 200);
         none(() -> new RingHand().kept(0));
+        chalkByHand("from 100;go 200 5;go 300 5;go 60 5;go 150 5;eye 20;hole 2;lag 0;wrist 90;", 100, 200, 300, 60, 150);
+        chalkByHand("from 90;go 400 9;stay 9;go 90 9;go 40 3;stay 2;go 70 4;eye - 15;hole 1;lag 1;wrist 40;", 90, 400, 40, 70);
+        chalkByHand("from 20;go 30 4;go 20 3;go 60 9;go 200 9;go 100 9;eye 9;lag 1;wrist 60;", 20, 30, 60, 200, 100);
+        // The ring moves by chalk alone, and from 30, but not from 20, the wrist gets to 120 at once.
+        RingHand end = told("from 12;go 20 1;go 30 1;go 40 1;go 50 1;go 60 1;go 70 1;go 80 1;go 90 1;go 100 1;go 110 1;"
+            + "go 120 1;go 121 99;eye 30;hole 1;ring inch;lag 0;wrist 90;hand ring+(seen-ring)*mark;");
+        due(end.marks(1), 100);
+        due(end.kept(0), 120);
+        due(end.marks(3), 103);
+        due(end.kept(0), 20);
+        due(end.kept(1), 30);
+        due(end.kept(2), 120);
+        // Thirteen places, and the chalk is wanted at the last two of them.
+        RingHand two = told("from 12;go 20 1;go 30 1;go 40 1;go 50 1;go 60 1;go 70 1;go 80 1;go 90 1;go 100 1;go 110 1;"
+            + "go 300 1;go 310 99;eye 30;hole 1;ring inch*3-850;lag 0;wrist 90;hand ring+(seen-ring)*mark;");
+        due(two.marks(2), 111);
+        due(two.kept(0), 300);
+        due(two.kept(1), 310);
+    }
+
+    /** marks() of a scene without MARKS against chalk(): three MARKS, those not wanted out of reach at 480. */
+    private static void chalkByHand(String text, int... places) {
+        RingHand x = told(text);
+        RingHand y = told(text + "mark 478;mark 479;mark 480;");
+        for (int many = 1; many <= 3; many++) {
+            int most = -1;
+            int[] row = {};
+            for (int i = 0; i < places.length; i++) {
+                for (int k = many > 1 ? i + 1 : 0; k < (many > 1 ? places.length : 1); k++) {
+                    for (int m = many > 2 ? k + 1 : 0; m < (many > 2 ? places.length : 1); m++) {
+                        int[] now = {places[i], many > 1 ? places[k] : 479, many > 2 ? places[m] : 480};
+                        y.image();
+                        for (int c = 0; c < 3; c++) {
+                            y.chalk(c, now[c]);
+                        }
+                        if (y.all(0) > most) {
+                            most = y.all(0);
+                            row = now;
+                        }
+                        y.restore();
+                    }
+                }
+            }
+            due(x.marks(many), most);
+            for (int c = 0; c < many; c++) {
+                due(x.kept(c), row[c]);
+            }
+        }
     }
 
     /** The first place by which one mark makes as many tenths SHARP as told. */
@@ -754,6 +844,10 @@ public final class PromisesTest {
         due(x.takes(1, 1, 30, 6, 0), 16838 % 30 >= 5 ? 1 : 0);
         due(x.takes(-7, 3, 1, 5, 0), 3);
         due(x.takes(-7, 3, 1, 601, 0), 0);
+        due(x.takes(-7, 1, 1, 5, 2), 5);
+        // The fewest may be the first take's: seeds whose first draw of 30 is below 5, and whose next is not.
+        due(x.takes(fewThenMany(), 2, 30, 5, 2), 5);
+        due(x.takes(fewThenMany(), 2, 30, 5, 1), 11);
         none(() -> x.takes(1, 41, 0, 602, 3));
         none(() -> x.takes(1, 1, 1, 1, -1));
         bad(() -> x.takes(1, 41, 1, 1, 0));
@@ -762,6 +856,16 @@ public final class PromisesTest {
         bad(() -> x.takes(1, 1, 31, 1, 0));
         bad(() -> x.takes(1, 1, 1, -1, 0));
         bad(() -> x.takes(1, 1, 1, 602, 0));
+    }
+
+    private static int fewThenMany() {
+        for (int seed = 0;; seed++) {
+            int first = seed * 1103515245 + 12345;
+            int second = first * 1103515245 + 12345;
+            if ((first >>> 16 & 32767) % 30 < 5 && (second >>> 16 & 32767) % 30 >= 5) {
+                return seed;
+            }
+        }
     }
 
     private static void film() {
@@ -895,6 +999,7 @@ public final class PromisesTest {
         RingHand x = told("from 480;go 12 1;stay 3;lag 0;hole 3;");
         // 9 to 360 in at most 4 tenths: by 87 it is just within.
         due(x.wrists(), 87);
+        due(told("from 100;go 200 1;ring inch;lag 0;hole 10;").wrists(), 90);
         due(x.count(8), 20);
     }
 
@@ -926,6 +1031,18 @@ public final class PromisesTest {
         RingHand y = told("from 60;stay 5;behind 60;him 2;hand ring;");
         due(y.shift(0), 0);
         due(y.shift(1), 2);
+        // Of like ones (-5 and 5: it is hers for him all along) the one below 0.
+        RingHand like = told("from 35;stay 7;lag 1;wrist 10;hole 4;behind 12;him 3;her 6;");
+        due(like.shift(0), -5);
+        due(like.shift(1), 5);
+        // 30 tenths earlier would do even better; 24 is the most that is tried.
+        RingHand slow = told("from 200;stay 99;stay 99;ring inch;behind 100;him 60;wrist 1;hole 30;lag 0;");
+        due(slow.shift(0), -24);
+        due(slow.shift(1), 60 + (198 - 105 + 1));
+        // Only 24 tenths later, past the end, he never turns away from her.
+        RingHand never = told("from 12;stay 28;ring inch;behind 200;him 5;her 28;wrist 2;hole 1;lag 0;");
+        due(never.shift(0), 24);
+        due(never.shift(1), 6);
         // By a lag he is late anyway; a CHANGE that ought to come later, comes later.
         RingHand z = told("from 60;stay 3;go 120 1;stay 10;behind 60;him 3;hole 1;lag 0;wrist 90;hand seen+((tenth=3)*500);");
         due(z.shift(0), 0);

@@ -149,6 +149,10 @@ public final class RandomRunsTest {
             s.append("go ").append(number(12, 480)).append(" ").append(number(1, 30)).append(";");
         }
         java.util.Set<String> once = new java.util.HashSet<>();
+        if (clean && roll(2) == 0) {
+            s.append("eye ").append(roll(2) == 0 ? "-" : "").append(roll(31)).append(";");
+            once.add("eye");
+        }
         int last = 0;
         for (int i = roll(22); i >= 0; i--) {
             String line = line();
