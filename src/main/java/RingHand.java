@@ -267,11 +267,6 @@ public final class RingHand {
         return trial.sharpBy(trial.row[HOLE]);
     }
 
-    private int sharpAsSet() {
-        walkAsSet();
-        return trial.sharpBy(setup.row[HOLE]);
-    }
-
     public int all(int what) throws NoSuchElementException {
         if (what < 0 || what > 6) {
             throw new NoSuchElementException("nothing such of all TENTHS");
@@ -318,7 +313,7 @@ public final class RingHand {
         if (!isMark(i)) {
             throw new NoSuchElementException("no such MARK");
         }
-        boolean free = isInches(inches) && !setup.isMarked(inches, scene.markCount);
+        boolean free = isInches(inches) && !isNearMark(setup.row, scene.markCount, inches, 0);
         return set(MARK + i, inches, free, NONE);
     }
 
@@ -501,7 +496,8 @@ public final class RingHand {
     private int sharpLate(int late) {
         takeSettings();
         trial.late = late;
-        return sharpAsTried();
+        trial.walk(scene);
+        return trial.sharpBy(trial.row[HOLE]);
     }
 
     public int see(int tenth, boolean sharp) throws NoSuchElementException {
@@ -612,7 +608,8 @@ public final class RingHand {
     }
 
     public int cure() {
-        int mostSharp = sharpAsSet();
+        walkAsSet();
+        int mostSharp = trial.sharpBy(setup.row[HOLE]);
         int best = NONE;
         for (int i = 0; i <= 2; i++) {
             takeSettings();
@@ -776,7 +773,17 @@ public final class RingHand {
     }
 
     private static int within(int value, int least, int most) {
-        return Math.max(least, Math.min(most, value));
+        return value < least ? least : value > most ? most : value;
+    }
+
+    /** Whether one of so many MARKS of a row of settings is no farther than that from some INCHES. */
+    private static boolean isNearMark(int[] row, int markCount, int inches, int reach) {
+        for (int i = MARK; i < MARK + markCount && i < row.length; i++) {
+            if (Math.abs(row[i] - inches) <= reach) {
+                return true;
+            }
+        }
+        return false;
     }
 
     /** The words that a text may hold; OTHER stands for any that means nothing. */
@@ -852,31 +859,22 @@ public final class RingHand {
             }
             int top = 0;
             for (int i = from[rule]; i < to[rule] && i < code.length; i++) {
-                top = work(code[i], top);
+                int step = code[i];
+                if (step >= 0 || step <= FIRST_VALUE) {
+                    if (top < STACK) {
+                        stack[top] = step >= 0 ? step : valueBy(step);
+                        top++;
+                    }
+                } else if (step == NOT) {
+                    if (top >= 1) {
+                        stack[top - 1] = stack[top - 1] == 0 ? 1 : 0;
+                    }
+                } else if (top >= 2) {
+                    top--;
+                    stack[top - 1] = join(step, stack[top - 1], stack[top]);
+                }
             }
             return top == 1 ? stack[0] : 0;
-        }
-
-        /** Works one step with so many numbers on the stack: how many there are then. */
-        private int work(int step, int top) {
-            if (step >= 0 || step <= FIRST_VALUE) {
-                if (top < 0 || top >= STACK) {
-                    return top;
-                }
-                stack[top] = step >= 0 ? step : valueBy(step);
-                return top + 1;
-            }
-            if (step == NOT) {
-                if (top >= 1 && top <= STACK) {
-                    stack[top - 1] = stack[top - 1] == 0 ? 1 : 0;
-                }
-                return top;
-            }
-            if (top < 2 || top > STACK) {
-                return top;
-            }
-            stack[top - 2] = join(step, stack[top - 2], stack[top - 1]);
-            return top - 1;
         }
 
         private int valueBy(int step) {
@@ -965,15 +963,6 @@ public final class RingHand {
             }
         }
 
-        boolean isMarked(int inches) {
-            for (int i = 0; i < markCount && i < MOST_MARKS; i++) {
-                if (row[MARK + i] == inches) {
-                    return true;
-                }
-            }
-            return false;
-        }
-
         /** Works out, once a scene, where she is in each tenth and the TURN of all INCHES. */
         void finish() {
             row[HAND] = handCount > 0 ? 0 : NONE;
@@ -1002,16 +991,16 @@ public final class RingHand {
         }
 
         int turnOf(int inches) {
-            return turns[within(inches, NEAREST, FARTHEST)];
+            return inches < NEAREST || inches > FARTHEST ? 0 : turns[inches];
         }
 
         /** INCHES of her; ahead of tenth 0 she stands where she begins. */
         int herIn(int tenth) {
-            return her[within(tenth, 0, MOST_TENTHS)];
+            return tenth < 0 || tenth > MOST_TENTHS ? begin : her[tenth];
         }
 
         int placeOf(int inches, int who, int behind) {
-            return who == HERS ? inches : Math.min(FARTHEST, inches + behind);
+            return who == HERS ? inches : within(inches + behind, NEAREST, FARTHEST);
         }
 
         /** Whose face it is, had all CHANGES come so many tenths later. */
@@ -1273,7 +1262,7 @@ public final class RingHand {
             if (!isNumber(NEAREST, FARTHEST)) {
                 return false;
             }
-            if (at < tokens && scene.isMarked(meanings[at])) {
+            if (at < tokens && isNearMark(scene.row, scene.markCount, meanings[at], 0)) {
                 return refuse(CHALKED_ALREADY);
             }
             scene.addMark(takeNumber());
@@ -1555,15 +1544,6 @@ public final class RingHand {
             return actCount;
         }
 
-        boolean isMarked(int inches, int markCount) {
-            for (int i = 0; i < markCount && i < MOST_MARKS; i++) {
-                if (row[MARK + i] == inches) {
-                    return true;
-                }
-            }
-            return false;
-        }
-
         boolean note(int tenth, boolean sharp) {
             if (seenCount >= MOST_SEEN) {
                 return false;
@@ -1653,7 +1633,7 @@ public final class RingHand {
             last = Math.min(scene.last, MOST_TENTHS);
             for (int t = 0; t <= last; t++) {
                 int inches = placeIn(scene, t - row[LAG], scene.faceIn(t, shifted));
-                chalked[t] = isByMark(inches);
+                chalked[t] = isNearMark(row, markCount, inches, CHALK_REACH);
                 seen[t] = scene.turnOf(chalked[t] ? inches : judged(inches));
             }
         }
@@ -1695,15 +1675,6 @@ public final class RingHand {
         /** TURN of the face that it is, where that really is. */
         int rightIn(Scene scene, int tenth) {
             return scene.turnOf(placeIn(scene, tenth, scene.faceIn(tenth, 0)));
-        }
-
-        private boolean isByMark(int inches) {
-            for (int i = 0; i < markCount && i < MOST_MARKS; i++) {
-                if (Math.abs(row[MARK + i] - inches) <= CHALK_REACH) {
-                    return true;
-                }
-            }
-            return false;
         }
 
         private int judged(int inches) {
