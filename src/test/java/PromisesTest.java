@@ -982,6 +982,8 @@ public final class PromisesTest {
         promise = 34;
         due(told("stay 5;").cure(), -1);
         due(told("stay 5;eye 30;").cure(), 0);
+        due(told("from 200;stay 5;eye 1;ring inch*2;").cure(), 0);
+        due(told("from 200;stay 5;eye -1;ring inch*2;").cure(), 0);
         due(told("from 120;go 60 10;lag 5;wrist 90;hole 4;").cure(), 1);
         due(told("from 120;go 60 10;stay 20;lag 0;wrist 1;hole 4;").cure(), 2);
         // Both LAG 0 and WRIST 90 may do as well: the first.
@@ -1060,6 +1062,10 @@ public final class PromisesTest {
         due(y.all(0), 7);
         due(y.slip(0), 10);
         due(y.slip(1), 5);
+        RingHand z = told("from 120;go 60 1;stay 1;lag 0;wrist 90;hand 36+36*(tenth=1);");
+        // Late by 1 she is always where the hand is not.
+        due(z.slip(0), 1);
+        due(z.slip(1), 1);
         none(() -> x.slip(2));
         none(() -> x.slip(-1));
     }
