@@ -750,7 +750,8 @@ public final class RingHand {
         int first = 0;
         for (int t = 1; t <= scene.last; t++) {
             int by = Math.abs(trial.rightIn(scene, t) - trial.rightIn(scene, t - 1));
-            if (by > most) {
+            // Where TURN never is another, the most is 0, and tenth 1 is the first of which that is so.
+            if (by > most || first == 0) {
                 most = by;
                 first = t;
             }

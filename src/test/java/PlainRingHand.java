@@ -969,7 +969,7 @@ final class PlainRingHand {
         for (int t = told.last(); t > 0; t--) {
             int by = Math.abs(turnBy(place(t, face(t, 0), state.behind, 0))
                 - turnBy(place(t - 1, face(t - 1, 0), state.behind, 0)));
-            if (by > 0 && by >= most) {
+            if (by >= most) {
                 most = by;
                 first = t;
             }

@@ -1132,7 +1132,15 @@ public final class PromisesTest {
         due(x.quickest(1), 6);
         due(new RingHand().quickest(0), 0);
         due(new RingHand().quickest(1), 0);
-        due(told("stay 4;").quickest(1), 0);
+        // A later tenth in which TURN is no other is still the first in which it differs by the most, 0.
+        due(told("stay 1;").quickest(0), 0);
+        due(told("stay 1;").quickest(1), 1);
+        due(told("stay 4;").quickest(1), 1);
+        due(told("ring 5;go 60 9;").quickest(0), 0);
+        due(told("ring 5;go 60 9;").quickest(1), 1);
+        due(told("from 120;stay 3;go 108 1;").quickest(1), 4);
+        due(told("").quickest(1), 0);
+        due(told("from 60;him 3;behind 9;").quickest(1), 0);
         none(() -> x.quickest(2));
         none(() -> x.quickest(-1));
     }
