@@ -35,6 +35,7 @@ public final class FaceTest {
 
     public static void main(String[] args) throws Exception {
         face();
+        faceOfDocument();
         source();
         if (wrong > 0) {
             System.exit(1);
@@ -91,6 +92,24 @@ public final class FaceTest {
                 check(!names.contains(m.getName()), "an inner method has a public one's name: " + m);
             }
         }
+    }
+
+    /** Each line of the document's face stands in the file as it is, with what it may throw. */
+    private static void faceOfDocument() throws Exception {
+        Path doc = Path.of("../shared/DOC.md");
+        if (!Files.exists(doc)) {
+            return;
+        }
+        String file = Files.readString(Path.of("src/main/java/RingHand.java")).replaceAll("\\s+", " ");
+        int found = 0;
+        for (String line : Files.readString(doc).split("\n")) {
+            if (line.startsWith("    public ")) {
+                found++;
+                String declared = line.strip().replaceAll(";$", "");
+                check(file.contains(declared + " {") || file.contains(declared + ";"), "not as told: " + declared);
+            }
+        }
+        check(found == FACE.length + 2, "the document's face has " + found + " lines");
     }
 
     private static void source() throws Exception {

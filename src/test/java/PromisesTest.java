@@ -1,89 +1,5 @@
-import java.nio.charset.StandardCharsets;
-import java.util.NoSuchElementException;
-
 /** Each promise of the document by itself: ordinary calls, the edges that it names, wrong inputs. */
-public final class PromisesTest {
-    private static int wrong = 0;
-    private static int promise = 0;
-
-    private interface Call {
-        long now();
-    }
-
-    private static void due(long got, long want) {
-        if (got != want) {
-            wrong++;
-            StackTraceElement at = at();
-            System.out.println("promise " + promise + ", line " + at.getLineNumber() + ": answered " + got
-                + ", due is " + want);
-        }
-    }
-
-    private static StackTraceElement at() {
-        StackTraceElement[] all = new Throwable().getStackTrace();
-        int i = 0;
-        while (all[i].getMethodName().matches("at|due|isTrue|none|bad|fault|told|gives|chalkByHand|lambda.*")) {
-            i++;
-        }
-        return all[i];
-    }
-
-    private static void isTrue(boolean got) {
-        due(got ? 1 : 0, 1);
-    }
-
-    /** The call throws NoSuchElementException. */
-    private static void none(Call call) {
-        int thrown = 0;
-        try {
-            call.now();
-        } catch (NoSuchElementException e) {
-            thrown = 1;
-        }
-        due(thrown, 1);
-    }
-
-    /** The call throws IllegalArgumentException. */
-    private static void bad(Call call) {
-        int thrown = 0;
-        try {
-            call.now();
-        } catch (IllegalArgumentException e) {
-            thrown = 1;
-        }
-        due(thrown, 1);
-    }
-
-    private static int feedText(RingHand x, String text) {
-        byte[] bytes = text.getBytes(StandardCharsets.ISO_8859_1);
-        int[] n = new int[5];
-        int answer = x.count(14);
-        for (int i = 0; i < bytes.length; i += 20) {
-            for (int k = 0; k < 20; k++) {
-                n[k / 4] = n[k / 4] << 8 | (i + k < bytes.length ? bytes[i + k] & 255 : 32);
-            }
-            answer = x.feed(n[0], n[1], n[2], n[3], n[4]);
-        }
-        return answer;
-    }
-
-    private static int tell(RingHand x, String text) {
-        feedText(x, text);
-        return x.scene(text.length());
-    }
-
-    private static RingHand told(String text) {
-        RingHand x = new RingHand();
-        due(tell(x, text), 0);
-        return x;
-    }
-
-    private static void fault(String text, int kind, int place) {
-        RingHand x = new RingHand();
-        due(tell(x, text), kind);
-        due(x.fault(), place);
-    }
-
+public final class PromisesTest extends Checks {
     public static void main(String[] args) {
         newObject();
         feed();
@@ -124,10 +40,7 @@ public final class PromisesTest {
         shots();
         quickest();
         imageAndRestore();
-        if (wrong > 0) {
-            System.out.println(wrong + " answers are not as due");
-            System.exit(1);
-        }
+        endWithCount();
     }
 
     private static void newObject() {
