@@ -157,6 +157,13 @@ final class ActBounds extends Checks {
         due(x.undo(), -1);
         due(x.count(11), 0);
         due(x.count(16), 1);
+        // The walk is as it was, too.
+        RingHand y = told("from 120;go 60 1;stay 3;lag 0;");
+        due(y.all(0), 4);
+        y.lag(3);
+        due(y.all(0), 1);
+        y.undo();
+        due(y.all(0), 4);
     }
 
     @Sentence(promise = 18, says = "ACTS (at most 40 are kept, the latest ones)")
@@ -260,38 +267,45 @@ final class ActBounds extends Checks {
     @Sentence(promise = 43,
         says = "HOLE, LAG, WRIST, EYE, the HAND in force, BEHIND, MARKS, ACTS, what is SEEN and the BOOK")
     static void fullImage() {
-        RingHand x = told("stay 9;lag 0;mark 12;mark 22;mark 32;mark 42;mark 52;mark 62;hand 36;hand 99;");
+        // Late by d she is SOFT in tenth d + 1 alone: each of the 8 tenths that were SHARP shuts one d out.
+        RingHand x = told("go 60 1;stay 30;lag 1;wrist 90;mark 12;mark 22;mark 32;mark 42;mark 52;mark 62;"
+            + "hand seen;hand seen;");
         for (int i = 1; i <= 41; i++) {
-            x.hole(i);
+            x.behind(i);
         }
         for (int i = 0; i < 8; i++) {
-            x.see(i, true);
+            x.see(3 + 2 * i, true);
         }
         for (int i = 0; i < 16; i++) {
             x.book(100 + i);
         }
-        int fits = x.fits(0);
+        due(x.fits(0), 3 * 13);
         x.image();
         x.lag(9);
         x.wrist(9);
         x.eye(9);
         x.hand(1);
-        x.behind(9);
+        x.behind(99);
+        x.hole(9);
         for (int i = 0; i < 6; i++) {
             x.chalk(i, 200 + i);
         }
         x.forget();
-        x.see(1, false);
-        x.book(480);
+        for (int i = 0; i < 8; i++) {
+            x.see(25, false);
+        }
+        for (int i = 0; i < 16; i++) {
+            x.book(480);
+        }
         isTrue(x.restore());
-        int[] counts = {9, 1, 0, 6, 2, 0, 41, 0, 20, 0, 0, 40, 8, 16};
+        int[] counts = {31, 2, 0, 6, 2, 0, 3, 1, 90, 0, 41, 40, 8, 16};
         for (int i = 0; i < counts.length; i++) {
             due(x.count(i), counts[i]);
         }
         for (int i = 0; i < 6; i++) {
             due(x.mark(i), 12 + 10 * i);
         }
-        due(x.fits(0), fits);
+        due(x.fits(0), 3 * 13);
         due(x.middle(0), 215);
         due(x.middle(1), 2);
         // The rows are full again, and the ACTS the same.
@@ -299,7 +313,7 @@ final class ActBounds extends Checks {
         due(x.book(50), -1);
         for (int i = 39; i >= 0; i--) {
             due(x.undo(), i);
-            due(x.count(6), i + 1);
+            due(x.count(10), i + 1);
         }
         due(x.undo(), -1);
     }
@@ -332,6 +346,14 @@ final class ActBounds extends Checks {
         isTrue(x.restore());
         isTrue(x.restore());
         due(x.count(6), 9);
+        // The walk is as it was, too.
+        RingHand y = told("from 120;go 60 1;stay 3;lag 0;");
+        y.image();
+        due(y.all(0), 4);
+        y.lag(3);
+        due(y.all(0), 1);
+        isTrue(y.restore());
+        due(y.all(0), 4);
         // A text with a FAULT leaves the image, a SCENE takes it away.
         due(tell(x, "?"), 1);
         isTrue(x.restore());

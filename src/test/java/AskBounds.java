@@ -110,8 +110,10 @@ final class AskBounds extends Checks {
             + "and what he SEES without a HAND; 'was' as it is)")
     static void foretoldIsKept() {
         // Beyond 999, or below 0, the hand would turn away; foretold by 1, only tenth 1 is SOFT.
-        foretell("from 12;go 111 99;stay 3;ring inch*9;lag 1;wrist 90;hole 1;hand seen-(999<seen)*500;", 1, 102);
-        foretell("from 111;go 12 99;stay 3;ring (inch-12)*9;lag 1;wrist 90;hole 1;hand seen+(seen<0)*500;", 1, 102);
+        foretell("from 12;go 111 99;stay 3;ring inch*9;lag 1;wrist 90;hole 1;"
+            + "hand seen-(997<seen and not seen=999)*500;", 1, 102);
+        foretell("from 111;go 12 99;stay 3;ring (inch-12)*9;lag 1;wrist 90;hole 1;"
+            + "hand seen+(seen<2 and not seen=0)*500;", 1, 102);
         foretell("from 12;go 111 99;stay 3;ring inch*9;lag 1;wrist 90;hole 1;", 1, 102);
         // 'was' is not foretold: only as it is it makes the ring right.
         foretell("from 12;go 90 78;ring inch*10;lag 1;wrist 90;hole 1;hand was+20;", 0, 78);
@@ -329,11 +331,70 @@ final class AskBounds extends Checks {
         }
         // Thirteen places, and only the last three of them help.
         RingHand y = told("from 130;go 140 1;go 150 1;go 160 1;go 170 1;go 180 1;go 190 1;go 200 1;go 210 1;go 220 1;"
-            + "go 300 1;go 350 1;go 400 1;ring inch/2;lag 0;eye -30;wrist 90;hand ring+(299<seen*2)*(seen-ring);hole 1;");
+            + "go 300 1;go 350 1;go 400 1;ring inch/2;lag 0;eye -30;wrist 90;hole 1;"
+            + "hand ring+(299<seen*2)*(seen-ring);");
         due(y.marks(3), 4);
         due(y.kept(0), 300);
         due(y.kept(1), 350);
         due(y.kept(2), 400);
+    }
+
+    /** Thirteen places; the ring gets right only by a MARK, and only where it is told: all other rows are worse. */
+    private static RingHand rightAt(int... places) {
+        StringBuilder text = new StringBuilder("from 100;");
+        for (int i = 1; i <= 12; i++) {
+            text.append("go ").append(100 + 25 * i).append(" 1;");
+        }
+        text.append("ring inch/5;eye 30;lag 0;wrist 90;hole 1;hand ring+mark*(0");
+        for (int place : places) {
+            text.append(" or seen=").append(20 + 5 * place);
+        }
+        return told(text + ")*(seen-ring);");
+    }
+
+    private static void rowKept(RingHand x, int sharp, int... places) {
+        due(x.marks(places.length), sharp);
+        for (int i = 0; i < places.length; i++) {
+            due(x.kept(i), 100 + 25 * places[i]);
+        }
+    }
+
+    @Sentence(promise = 24, says = "(each once, in the order of the first of these)")
+    static void rowsOfThirteenPlaces() {
+        rowKept(rightAt(), 1, 0);
+        rowKept(rightAt(1), 2, 1);
+        rowKept(rightAt(12), 2, 12);
+        rowKept(rightAt(), 1, 0, 1);
+        rowKept(rightAt(2), 2, 0, 2);
+        rowKept(rightAt(12), 2, 0, 12);
+        rowKept(rightAt(1, 2), 3, 1, 2);
+        rowKept(rightAt(1, 12), 3, 1, 12);
+        rowKept(rightAt(11, 12), 3, 11, 12);
+        rowKept(rightAt(), 1, 0, 1, 2);
+        rowKept(rightAt(3), 2, 0, 1, 3);
+        rowKept(rightAt(12), 2, 0, 1, 12);
+        rowKept(rightAt(6, 12), 3, 0, 6, 12);
+        rowKept(rightAt(11, 12), 3, 0, 11, 12);
+        rowKept(rightAt(1, 2, 3), 4, 1, 2, 3);
+        rowKept(rightAt(1, 2, 12), 4, 1, 2, 12);
+        rowKept(rightAt(1, 11, 12), 4, 1, 11, 12);
+        rowKept(rightAt(10, 11, 12), 4, 10, 11, 12);
+        // By chalk he is wrong here; still no row has fewer MARKS, or one elsewhere.
+        RingHand worse = told("from 100;stay 3;ring inch;eye 10;hand seen-10;");
+        due(worse.marks(0), 4);
+        due(worse.marks(1), 1);
+        due(worse.kept(0), 100);
+        RingHand worst = told("from 100;stay 3;go 140 1;go 180 1;ring inch;eye 10;lag 0;wrist 90;hand seen*10/11;");
+        due(worst.marks(0), 6);
+        due(worst.marks(2), 4);
+        due(worst.kept(0), 140);
+        due(worst.kept(1), 180);
+        due(worst.marks(3), 1);
+        // Places of a SCENE that is gone are none.
+        due(tell(worse, "from 300;stay 3;"), 0);
+        due(worse.marks(2), -1);
+        due(worse.marks(1), 4);
+        due(worse.kept(0), 300);
     }
 
     @Sentence(promise = 25,
@@ -515,8 +576,14 @@ final class AskBounds extends Checks {
         due(told("stay 9;eye 0;lag 0;wrist 90;hand 99;").cure(), -1);
         // None makes it better.
         due(told("stay 9;eye 9;lag 9;wrist 9;hand 999;").cure(), -1);
-        due(told("from 200;stay 1;ring inch;eye 2;").cure(), 0);
-        due(told("from 200;stay 1;ring inch;eye 1;").cure(), -1);
+        // EYE 0, not 1; LAG 0, not 1; WRIST 90, no less and no more.
+        due(told("from 200;stay 1;ring inch;eye 2;hole 1;").cure(), 0);
+        due(told("from 200;stay 1;ring inch;eye 1;hole 1;").cure(), 0);
+        due(told("from 200;stay 1;ring inch;eye -1;hole 1;").cure(), 0);
+        due(told("from 200;stay 1;ring inch;eye 1;hole 2;").cure(), -1);
+        due(told("from 100;go 120 1;ring inch;lag 1;").cure(), 1);
+        due(told("from 100;go 200 1;ring inch;lag 0;hole 10;").cure(), 2);
+        due(told("from 100;go 200 1;ring inch;lag 0;hole 9;").cure(), -1);
         // EYE and LAG, EYE and WRIST, LAG and WRIST: each would make one more SHARP.
         due(told("from 100;stay 1;go 180 1;stay 2;mark 180;ring inch;eye 10;lag 1;wrist 90;").cure(), 0);
         due(told("from 100;stay 1;go 180 1;stay 2;mark 180;ring inch;eye 10;lag 0;wrist 40;").cure(), 0);
@@ -658,6 +725,12 @@ final class AskBounds extends Checks {
         slip("", 0, 1);
         slip("stay 9;", 0, 10);
         slip(STAY_600 + "hand 99;", 0, 1);
+        // She is late only where that is asked.
+        RingHand x = told(BY_PLAN);
+        due(x.slip(1), 32);
+        due(x.all(0), 62);
+        due(x.takes(1, 40, 30, 0, 0), 40);
+        due(x.holes(62), 1);
         // Worst, if she is on time, or only a tenth late.
         slip("from 120;go 60 1;stay 9;lag 0;wrist 90;hand 36;", 0, 1);
         slip("from 120;go 60 1;stay 1;lag 0;wrist 90;hand 36+36*(tenth=1);", 1, 1);

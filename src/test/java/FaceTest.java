@@ -84,14 +84,27 @@ public final class FaceTest {
             check(Modifier.isPublic(k.getModifiers()) && k.getParameterCount() == 0, "a constructor more: " + k);
         }
         check(c.getDeclaredClasses().length <= 11, "too many classes");
+        fields(c);
         for (Class<?> inner : c.getDeclaredClasses()) {
             check(Modifier.isStatic(inner.getModifiers()), "not static: " + inner);
             check(!Modifier.isPublic(inner.getModifiers()), "public: " + inner);
+            fields(inner);
             for (Method m : inner.getDeclaredMethods()) {
                 check(m.getParameterCount() <= 7, "too many parameters: " + m);
                 check(!names.contains(m.getName()), "an inner method has a public one's name: " + m);
             }
         }
+    }
+
+    /** Rules 5 and 11: what is static is final, and a class has some twenty fields. */
+    private static void fields(Class<?> c) {
+        int many = 0;
+        for (Field f : c.getDeclaredFields()) {
+            boolean isStatic = Modifier.isStatic(f.getModifiers());
+            many += isStatic ? 0 : 1;
+            check(!isStatic || Modifier.isFinal(f.getModifiers()), "static, but not final: " + f);
+        }
+        check(many <= 20, "too many fields: " + c);
     }
 
     /** Each line of the document's face stands in the file as it is, with what it may throw. */
@@ -112,6 +125,14 @@ public final class FaceTest {
         check(found == FACE.length + 2, "the document's face has " + found + " lines");
     }
 
+    /** Whatever looks like the first is wholly like the second. */
+    private static void eachIs(String code, String found, String allowed) {
+        Matcher m = Pattern.compile(found).matcher(code);
+        while (m.find()) {
+            check(m.group().matches(allowed), "not allowed: " + m.group());
+        }
+    }
+
     private static void source() throws Exception {
         String all = Files.readString(Path.of("src/main/java/RingHand.java"));
         check(all.chars().allMatch(ch -> ch == 10 || ch >= 32 && ch < 127), "a sign beyond ASCII, or a tab");
@@ -121,6 +142,10 @@ public final class FaceTest {
             Matcher m = Pattern.compile(f).matcher(code);
             check(!m.find(), "forbidden: " + f);
         }
+        eachIs(code, "\\bimport\\b[^;]*;", "import java.util.NoSuchElementException;");
+        eachIs(code, "\\bthrow\\b[^;]*;", "throw new (NoSuchElement|IllegalArgument)Exception\\(\"\"\\);");
+        eachIs(code, "\\b(Math|Integer|Long|Arrays)\\.\\w+", "Math\\.(max|min|abs)");
+        check(!Pattern.compile("\" \\+|\\+ \"").matcher(code).find(), "texts are joined by +");
         int begun = 0;
         String[] lines = code.split("\n");
         for (int i = 0; i < lines.length; i++) {

@@ -25,6 +25,14 @@ final class NoteBounds extends Checks {
         due(x.see(0, false), 1);
         due(x.fits(0), 0);
         due(x.count(17), 2);
+        // Each of the 8 counts: late by d she is SOFT in tenth d + 1 alone, and each shuts one d out.
+        RingHand y = told(AT_ONCE + "lag 1;");
+        for (int i = 1; i <= 8; i++) {
+            due(y.see(2 * i, true), i);
+            due(y.fits(0), 21 - i);
+        }
+        due(y.see(17, true), -1);
+        due(y.fits(0), 13);
     }
 
     @Sentence(promise = 27, says = "NoSuchElementException (ahead): no such tenth.")
@@ -268,6 +276,12 @@ final class NoteBounds extends Checks {
         due(x.see(0, true), 1);
         due(x.book(60), 1);
         middle(x, 60, 1, 0);
+        next(x, 59, 0, 1);
+        next(x, 60, 1, 1);
+        due(x.book(61), 2);
+        middle(x, 121, 2, 1);
+        next(x, 60, 1, 2);
+        due(x.fits(0), 21);
     }
 
     // ---- promise 39

@@ -211,7 +211,8 @@ final class RefusalBounds extends Checks {
         // The tape is empty then, and the FAULT has a place; the rest is compared.
         asIfNotMade(RefusalBounds::some, x -> x.scene(5), "1", 0, false);
         asIfNotMade(RefusalBounds::full, x -> x.scene(5), "1", 0, false);
-        String all = "from 300;stay 9;go 33 9;mark 33;hand 5;ring 5;shows 5;hole 9;lag 9;wrist 9;eye 9;behind 9;him 9;?";
+        String all = "from 300;stay 9;go 33 9;mark 33;hand 5;ring 5;shows 5;hole 9;lag 9;wrist 9;eye 9;behind 9;"
+            + "him 9;?";
         asIfNotMade(RingHand::new, x -> tell(x, all), "1", 0, false);
         asIfNotMade(() -> emptied(some()), x -> tell(x, all), "1", 0, false);
         asIfNotMade(() -> emptied(full()), x -> tell(x, all), "1", 0, false);
@@ -451,6 +452,52 @@ final class RefusalBounds extends Checks {
             x.book(50);
             return x;
         }, x -> x.restore() ? 1 : 0, "0", NO_STATUS, true);
+    }
+
+    // ---- questions
+
+    private static void asked(On question) {
+        for (Made made : STATES) {
+            asIfNotMade(made, question, answer(() -> question.of(made.now())), NO_STATUS, true);
+        }
+    }
+
+    @Sentence(promise = 10, says = "Nothing is promised beyond the answers and state changes described above")
+    static void questionsChangeNothing() {
+        asked(x -> x.tenth(0, 5));
+        asked(x -> x.all(5));
+        asked(x -> x.best(0));
+        asked(x -> x.foretell(0));
+        asked(x -> x.holes(601));
+        asked(x -> x.light(0, 1));
+        asked(x -> x.both());
+        asked(x -> x.takes(1, 40, 30, 0, 1));
+        asked(x -> x.fits(0));
+        asked(x -> x.next(480, 1));
+        asked(x -> x.middle(2));
+        asked(x -> x.runs(-1, 0));
+        asked(x -> x.cure());
+        asked(x -> x.wrists());
+        asked(x -> x.learn());
+        asked(x -> x.shift(0));
+        asked(x -> x.slip(0));
+        asked(x -> x.lags(1));
+        asked(x -> x.depth(40, 1));
+        asked(x -> x.shots(1));
+        asked(x -> x.quickest(0));
+    }
+
+    @Sentence(promise = 24, says = "CHALK: how many are SHARP; the row is kept")
+    static void chalkIsNotPut() {
+        for (Made made : STATES) {
+            // The same row is kept behind it.
+            Made kept = () -> {
+                RingHand x = made.now();
+                x.marks(1);
+                return x;
+            };
+            asIfNotMade(kept, x -> x.marks(1), answer(() -> kept.now().marks(1)), NO_STATUS, true);
+        }
     }
 
     // ---- nothing else is thrown

@@ -102,8 +102,57 @@ final class TextBounds extends Checks {
         due(x.count(0), 0);
         due(x.count(14), 0);
         due(x.scene(0), 0);
+        // What stands behind the first n bytes is no part of a TOKEN that they end with.
+        feedText(x, "hand seenx;");
+        due(x.scene(9), 1);
+        due(x.fault(), 9);
+        feedText(x, "hand 12345;");
+        due(x.scene(9), 1);
+        due(x.fault(), 9);
+        // Nor is what an earlier text left there.
+        due(tell(x, "x".repeat(40)), 1);
+        due(tell(x, "stay 1;    hand seen"), 1);
+        due(x.fault(), 20);
+        due(tell(x, "9".repeat(40)), 1);
+        due(tell(x, "stay 1;    hand 1234"), 1);
+        due(x.fault(), 20);
         // An empty tape has no bytes more to give.
         bad(() -> x.scene(1));
+    }
+
+    @Sentence(promise = 3, says = "are a SCENE, all anew: 0, or the FAULT (all stays).")
+    static void anewAgainAndAgain() {
+        String rich = "from 300;stay 9;go 200 9;mark 33;mark 34;hand 5;hand 6;ring 5;shows 0;hole 9;lag 9;wrist 9;"
+            + "eye 9;behind 9;him 3;her 6;";
+        RingHand x = new RingHand();
+        for (int i = 0; i < 3; i++) {
+            due(tell(x, rich), 0);
+            int[] counts = {18, 2, 2, 2, 2, 0, 9, 9, 9, 9, 9};
+            for (int what = 0; what < counts.length; what++) {
+                due(x.count(what), counts[what]);
+            }
+            due(x.inches(18, 0), 200);
+            due(x.tenth(4, 0), 1);
+            due(x.all(0), 19);
+            // A FAULT at the end of a rich text, and a poor text behind it: nothing is left of either.
+            due(tell(x, rich + "?"), 1);
+            due(tell(x, "stay 2;hole 1;hand 99;"), 0);
+            due(x.all(0), 1);
+            due(x.turn(12), 360);
+            due(tell(x, rich + "?"), 1);
+            due(x.scene(0), 0);
+            int[] poor = {0, 0, 0, 0, 0, -1, 3, 2, 20, 0, 0};
+            for (int what = 0; what < poor.length; what++) {
+                due(x.count(what), poor[what]);
+            }
+            due(x.all(0), 1);
+            due(x.inches(0, 0), 120);
+        }
+        // The longest rules, again and again.
+        for (int i = 0; i < 4; i++) {
+            due(tell(x, "ring inch" + "+1".repeat(345) + ";"), 0);
+            due(x.turn(12), 12 + 345);
+        }
     }
 
     @Sentence(promise = 3, says = "IllegalArgumentException: the tape has not so many, n below 0 (nothing changes).")
@@ -274,6 +323,11 @@ final class TextBounds extends Checks {
         due(told(STAY_600 + "him 600;").tenth(599, 0), 0);
         due(told("stay 5;him 1;").tenth(0, 0), 0);
         due(told("stay 5;him 1;").tenth(1, 0), 1);
+        RingHand six = told("stay 7;him 1;her 2;him 3;her 4;him 5;her 6;");
+        int[] face = {0, 1, 0, 1, 0, 1, 0, 0};
+        for (int t = 0; t < face.length; t++) {
+            due(six.tenth(t, 0), face[t]);
+        }
     }
 
     @Sentence(promise = 3, says = "MARKS (at most 6): INCHES.")
@@ -327,6 +381,17 @@ final class TextBounds extends Checks {
         due(told("hand 1;hand 2;hand 3;").count(4), 3);
         due(told("hand 1;hand 2;hand 3;hand 4;").count(4), 4);
         fault("hand 1;hand 2;hand 3;hand 4;hand 5;", 2, 28);
+        // Each rule is its own, in whichever order they are told.
+        RingHand x = told("hand 301;hand 302;shows off-9;hand 303;ring 300;hand 304;stay 1;hole 1;");
+        due(x.turn(12), 300);
+        for (int hand = 0; hand < 4; hand++) {
+            isTrue(x.hand(hand));
+            due(x.tenth(1, 2), 301 + hand);
+            due(x.tenth(1, 5), 0);
+        }
+        RingHand first = told("ring 300;hand 310;shows off-9;stay 1;");
+        due(first.turn(12), 300);
+        due(first.tenth(1, 5), 1);
     }
 
     // ---- promise 3, tokens
@@ -338,6 +403,13 @@ final class TextBounds extends Checks {
         fault("sta 5;", 1, 0);
         fault("stayhole 5;", 1, 0);
         fault("st ay 5;", 1, 0);
+        for (String word : WORDS) {
+            for (int i = 0; i < word.length() && word.length() > 1; i++) {
+                // No word but these may stand there, not one of another letter.
+                char other = word.charAt(i) == 'q' ? 'j' : 'q';
+                fault(word.substring(0, i) + other + word.substring(i + 1) + " 50 5;", 1, 0);
+            }
+        }
         fault("hand seenwas;", 3, 5);
         due(told("hand not0;").count(4), 1);
         fault("hand notseen;", 3, 5);

@@ -164,6 +164,20 @@ final class WalkBounds extends Checks {
         status(x, 1, 7, 3);
     }
 
+    @Sentence(promise = 5, says = "An object is used for at most 512 calls after it has been made")
+    static void lastCall() {
+        RingHand x = new RingHand();
+        for (int i = 1; i <= 511; i++) {
+            x.hole(i % 2 == 0 ? 61 : 1 + i % 60);
+        }
+        due(x.count(16), 255);
+        RingHand y = new RingHand();
+        for (int i = 1; i <= 511; i++) {
+            y.lag(i % 25);
+        }
+        due(y.undo(), 39);
+    }
+
     private static void status(RingHand x, int texts, int acts, int notes) {
         due(x.count(15), texts);
         due(x.count(16), acts);
@@ -248,6 +262,10 @@ final class WalkBounds extends Checks {
         }
         none(() -> x.inches(6, 0));
         due(told("go 480 1;").inches(1, 0), 480);
+        RingHand far = told("go 60 99;".repeat(6) + "go 12 6;");
+        due(far.inches(594, 0), 60);
+        due(far.inches(599, 0), 20);
+        due(far.inches(600, 0), 12);
     }
 
     @Sentence(promise = 7, says = "nowhere above 480")
@@ -303,6 +321,8 @@ final class WalkBounds extends Checks {
         RingHand x = told("");
         due(x.turn(12), 360);
         due(x.turn(13), 332);
+        due(x.turn(29), 148);
+        due(x.turn(30), 144);
         due(x.turn(432), 10);
         due(x.turn(433), 9);
         due(x.turn(480), 9);
@@ -440,7 +460,8 @@ final class WalkBounds extends Checks {
     @Sentence(promise = 9,
         says = "(In tenth 0 he SEES so, too, that 'was' may be told; of tenth 0 the ring doesn't ask.)")
     static void seenInTheFirstTenth() {
-        RingHand x = told("from 100;go 200 1;stay 1;ring inch;eye 10;lag 0;wrist 90;hand was;hand tenth+500*(tenth=0);");
+        RingHand x = told("from 100;go 200 1;stay 1;ring inch;eye 10;lag 0;wrist 90;hand was;"
+            + "hand tenth+500*(tenth=0);");
         due(x.tenth(0, 1), 110);
         due(x.tenth(0, 2), 100);
         due(x.tenth(0, 3), 0);
@@ -499,6 +520,10 @@ final class WalkBounds extends Checks {
         due(shows("shows hole-3;", 504), 0);
         due(shows("shows inch-119;", 504), 1);
         due(shows("shows inch-120;", 504), 0);
+        RingHand his = told("from 60;stay 2;behind 30;him 1;wrist 1;shows inch=90;");
+        due(his.tenth(1, 5), 1);
+        his.behind(31);
+        due(his.tenth(1, 5), 0);
     }
 
     // ---- promise 10
