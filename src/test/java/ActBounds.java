@@ -206,10 +206,7 @@ final class ActBounds extends Checks {
             x.chalk(i % 2, 100 + i);
         }
         due(x.count(11), 40);
-        int[] last = {0, 16, 16, 16, 16, 16};
-        for (int i = 0; i < last.length; i++) {
-            due(x.count(5 + i), last[i]);
-        }
+        counts(x, 5, 0, 16, 16, 16, 16, 16);
         // A refused call takes none of them away.
         due(x.hole(61), -1);
         due(x.chalk(0, 106), -1);
@@ -218,10 +215,7 @@ final class ActBounds extends Checks {
             due(x.undo(), i);
         }
         due(x.undo(), -1);
-        int[] first = {0, 11, 11, 20, 0, 0};
-        for (int i = 0; i < first.length; i++) {
-            due(x.count(5 + i), first[i]);
-        }
+        counts(x, 5, 0, 11, 11, 20, 0, 0);
         due(x.mark(0), 50);
         due(x.mark(1), 60);
     }
@@ -298,10 +292,7 @@ final class ActBounds extends Checks {
             x.book(480);
         }
         isTrue(x.restore());
-        int[] counts = {31, 2, 0, 6, 2, 0, 3, 1, 90, 0, 41, 40, 8, 16};
-        for (int i = 0; i < counts.length; i++) {
-            due(x.count(i), counts[i]);
-        }
+        counts(x, 0, 31, 2, 0, 6, 2, 0, 3, 1, 90, 0, 41, 40, 8, 16);
         for (int i = 0; i < 6; i++) {
             due(x.mark(i), 12 + 10 * i);
         }

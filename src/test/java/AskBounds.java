@@ -1,8 +1,5 @@
 /** The bounds of what may be asked of hands, holes, chalk, takes (Terms, ==== 3 to 5; promises 19 to 26, 33 to 42). */
 final class AskBounds extends Checks {
-    private static final String STAY_600 = "stay 99;".repeat(6) + "stay 6;";
-    // The hand turns in tenth 11, whenever she goes: late by d, 11 to 10 + d are SOFT, of 62 tenths.
-    private static final String BY_PLAN = "from 120;stay 10;go 60 1;stay 50;lag 0;wrist 90;hand 36+36*(10<tenth);";
     // OFF is 0 in tenth 0, and in tenth 1 what the hand makes of it.
     private static final String TWO_TENTHS = "stay 1;ring 500;wrist 90;";
 

@@ -13,6 +13,11 @@ abstract class Checks {
     static final int LEAST_INT = Integer.MIN_VALUE;
     static final int GREATEST_INT = Integer.MAX_VALUE;
 
+    // The longest SCENE, in which she only stays.
+    static final String STAY_600 = "stay 99;".repeat(6) + "stay 6;";
+    // The hand turns in tenth 11, whenever she goes: late by d, 11 to 10 + d are SOFT, of 62 tenths.
+    static final String BY_PLAN = "from 120;stay 10;go 60 1;stay 50;lag 0;wrist 90;hand 36+36*(10<tenth);";
+
     static int wrong = 0;
     static int promise = 0;
     static String sentence = "";
@@ -99,6 +104,13 @@ abstract class Checks {
         due(tell(x, text), kind);
         due(x.fault(), place);
         due(x.count(15), 1);
+    }
+
+    /** What count() answers, from some what on. */
+    static void counts(RingHand x, int from, int... want) {
+        for (int i = 0; i < want.length; i++) {
+            due(x.count(from + i), want[i]);
+        }
     }
 
     /** Runs every test of a class that bears a sentence, in the order of their promises. */

@@ -1,7 +1,5 @@
 /** The bounds of the film and of the book (Terms, ==== 4; promises 27 to 32 and 39). */
 final class NoteBounds extends Checks {
-    // He is right, but the hand turns in tenth 11, whenever she goes: she was late by d, so 11 to 10 + d are SOFT.
-    private static final String BY_PLAN = "from 120;stay 10;go 60 1;stay 50;lag 0;wrist 90;hand 36+36*(10<tenth);";
     // She goes at once; seen so many tenths late, 1 to LAG are SOFT.
     private static final String AT_ONCE = "from 120;go 60 1;stay 30;wrist 90;";
 

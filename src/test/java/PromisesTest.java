@@ -49,10 +49,7 @@ public final class PromisesTest extends Checks {
         due(RingHand.NONE, -1);
         due(x.inches(0, 0), 120);
         due(x.inches(0, 1), 120);
-        int[] counts = {0, 0, 0, 0, 0, -1, 3, 2, 20, 0, 0, 0, 0, 0, 0, 0, 0, 0};
-        for (int i = 0; i < counts.length; i++) {
-            due(x.count(i), counts[i]);
-        }
+        counts(x, 0, 0, 0, 0, 0, 0, -1, 3, 2, 20, 0, 0, 0, 0, 0, 0, 0, 0, 0);
         due(x.fault(), -1);
         due(x.tenth(0, 2), 36);
         due(x.all(0), 1);
@@ -79,10 +76,7 @@ public final class PromisesTest extends Checks {
     private static void scene() {
         promise = 3;
         RingHand x = told("from 100;go 40 4;mark 40;hand seen;lag 1;eye - 4;behind 7;him 2;her 3;\nhole 9; wrist 8 ;");
-        int[] counts = {4, 1, 2, 1, 1, 0, 9, 1, 8, -4, 7};
-        for (int i = 0; i < counts.length; i++) {
-            due(x.count(i), counts[i]);
-        }
+        counts(x, 0, 4, 1, 2, 1, 1, 0, 9, 1, 8, -4, 7);
         x.hole(5);
         x.see(0, true);
         x.book(50);
@@ -247,10 +241,7 @@ public final class PromisesTest extends Checks {
         x.book(20);
         x.feed(0, 0, 0, 0, 0);
         x.wrist(2);
-        int[] counts = {9, 1, 1, 2, 2, 0, 3, 2, 2, 0, 0, 1, 1, 1, 20, 0, 1, 2};
-        for (int i = 0; i < counts.length; i++) {
-            due(x.count(i), counts[i]);
-        }
+        counts(x, 0, 9, 1, 1, 2, 2, 0, 3, 2, 2, 0, 0, 1, 1, 1, 20, 0, 1, 2);
     }
 
     private static void mark() {
@@ -480,10 +471,7 @@ public final class PromisesTest extends Checks {
         due(x.behind(0), 200);
         due(x.count(16), 12);
         due(x.count(11), 12);
-        int[] counts = {-1, 1, 0, 1, -30, 0};
-        for (int i = 0; i < counts.length; i++) {
-            due(x.count(5 + i), counts[i]);
-        }
+        counts(x, 5, -1, 1, 0, 1, -30, 0);
     }
 
     private static void chalk() {
@@ -1078,10 +1066,7 @@ public final class PromisesTest extends Checks {
         x.book(98);
         promise = 44;
         isTrue(x.restore());
-        int[] counts = {0, 7, 2, 20, 0, 0, 1, 1, 1};
-        for (int i = 0; i < counts.length; i++) {
-            due(x.count(5 + i), counts[i]);
-        }
+        counts(x, 5, 0, 7, 2, 20, 0, 0, 1, 1, 1);
         due(x.mark(0), 50);
         due(x.undo(), 0);
         due(x.count(6), 3);

@@ -1,7 +1,5 @@
 /** The bounds of the tape, of a text, of its tokens and lines (Terms, ==== 1; promises 2 to 4). */
 final class TextBounds extends Checks {
-    private static final String STAY_600 = "stay 99;".repeat(6) + "stay 6;";
-
     /** A NUMBER, least to most, behind some words: both ends do; one beyond either is FAULT 2 at the NUMBER. */
     private static void numbers(String ahead, int least, int most) {
         told(ahead + least + ";");
@@ -127,10 +125,7 @@ final class TextBounds extends Checks {
         RingHand x = new RingHand();
         for (int i = 0; i < 3; i++) {
             due(tell(x, rich), 0);
-            int[] counts = {18, 2, 2, 2, 2, 0, 9, 9, 9, 9, 9};
-            for (int what = 0; what < counts.length; what++) {
-                due(x.count(what), counts[what]);
-            }
+            counts(x, 0, 18, 2, 2, 2, 2, 0, 9, 9, 9, 9, 9);
             due(x.inches(18, 0), 200);
             due(x.tenth(4, 0), 1);
             due(x.all(0), 19);
@@ -141,10 +136,7 @@ final class TextBounds extends Checks {
             due(x.turn(12), 360);
             due(tell(x, rich + "?"), 1);
             due(x.scene(0), 0);
-            int[] poor = {0, 0, 0, 0, 0, -1, 3, 2, 20, 0, 0};
-            for (int what = 0; what < poor.length; what++) {
-                due(x.count(what), poor[what]);
-            }
+            counts(x, 0, 0, 0, 0, 0, 0, -1, 3, 2, 20, 0, 0);
             due(x.all(0), 1);
             due(x.inches(0, 0), 120);
         }
@@ -190,10 +182,7 @@ final class TextBounds extends Checks {
         // All that a SCENE has is told before the FAULT comes.
         due(tell(x, "from 200;stay 9;stay 9;stay 9;mark 99;mark 98;hand 1;hand 2;ring 5;shows 1;hole 1;lag 1;"
             + "wrist 1;eye 1;behind 1;her 1;him 2;;"), 1);
-        int[] counts = {6, 2, 1, 1, 1, 0, 9, 7, 20, 0, 0, 2, 1, 1, 0, 1, 0, 0};
-        for (int i = 0; i < counts.length; i++) {
-            due(x.count(i), counts[i]);
-        }
+        counts(x, 0, 6, 2, 1, 1, 1, 0, 9, 7, 20, 0, 0, 2, 1, 1, 0, 1, 0, 0);
         due(x.inches(0, 0), 100);
         due(x.turn(12), 360);
         due(x.mark(0), 50);
@@ -557,10 +546,7 @@ final class TextBounds extends Checks {
         fault(hands + "hand xyz;", 2, 28);
         // All rows may be full at once, and what is no row still be told.
         RingHand x = told(moves + changes + marks + hands + "ring 1;shows 1;hole 1;lag 1;wrist 1;eye 1;behind 1;");
-        int[] counts = {12, 12, 6, 6, 4, 0, 1, 1, 1, 1, 1};
-        for (int i = 0; i < counts.length; i++) {
-            due(x.count(i), counts[i]);
-        }
+        counts(x, 0, 12, 12, 6, 6, 4, 0, 1, 1, 1, 1, 1);
     }
 
     @Sentence(promise = 3, says = "4 INCHES of a MARK that is there already")

@@ -1,7 +1,5 @@
 /** The bounds of the walk, the ring and what is seen of them (Terms, ==== 2; promises 1 and 5 to 10). */
 final class WalkBounds extends Checks {
-    private static final String STAY_600 = "stay 99;".repeat(6) + "stay 6;";
-
     // ---- promise 1
 
     @Sentence(promise = 1, says = "She stands at 120 INCHES, nobody behind her.")
@@ -9,10 +7,7 @@ final class WalkBounds extends Checks {
         RingHand x = new RingHand();
         due(x.inches(0, 0), 120);
         due(x.inches(0, 1), 120);
-        int[] counts = {0, 0, 0, 0, 0, -1, 3, 2, 20, 0, 0, 0, 0, 0, 0, 0, 0, 0};
-        for (int i = 0; i < counts.length; i++) {
-            due(x.count(i), counts[i]);
-        }
+        counts(x, 0, 0, 0, 0, 0, 0, -1, 3, 2, 20, 0, 0, 0, 0, 0, 0, 0, 0, 0);
         due(x.fault(), -1);
         int[] tenth = {0, 36, 36, 0, 1, 0};
         for (int i = 0; i < tenth.length; i++) {
