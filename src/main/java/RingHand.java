@@ -496,8 +496,7 @@ public final class RingHand {
     private int sharpLate(int late) {
         takeSettings();
         trial.late = late;
-        trial.walk(scene);
-        return trial.sharpBy(trial.row[HOLE]);
+        return sharpAsTried();
     }
 
     public int see(int tenth, boolean sharp) throws NoSuchElementException {

@@ -33,8 +33,8 @@ abstract class Checks {
     static void due(String got, String want) {
         if (!got.equals(want)) {
             wrong++;
-            System.out.println("promise " + promise + (sentence.isEmpty() ? "" : " (" + sentence + ")") + ", "
-                + where() + ": answered " + got + ", due is " + want);
+            System.out.println((promise == 0 ? "" : "promise " + promise + ", ")
+                + (sentence.isEmpty() ? "" : "(" + sentence + "), ") + where() + ": answered " + got + ", due is " + want);
         }
     }
 
